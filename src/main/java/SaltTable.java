@@ -975,19 +975,21 @@ public final class SaltTable {
 
         /** NONE, and nothing is eaten, if the next thing is no such number. */
         int eatsNumber(int least, int most) {
-            return eatsValue(NUMBER, least, most);
+            if (at < 0 || at > TAPE_ROOM || kinds[at] != NUMBER || values[at] < least || values[at] > most) {
+                return NONE;
+            }
+            int value = values[at];
+            at++;
+            return value;
         }
 
         int eatsLetter() {
-            return eatsValue(LETTER, 0, TRAITS - 1);
-        }
-
-        private int eatsValue(int kind, int least, int most) {
-            if (at < 0 || at > TAPE_ROOM || kinds[at] != kind || values[at] < least || values[at] > most) {
+            if (at < 0 || at > TAPE_ROOM || kinds[at] != LETTER) {
                 return NONE;
             }
+            int value = values[at];
             at++;
-            return values[at - 1];
+            return value;
         }
     }
 
@@ -1175,10 +1177,6 @@ public final class SaltTable {
                 law.addsStep(STEPS + kind);
                 return text.eats(kind);
             }
-            return readsComparison(text, law);
-        }
-
-        private static boolean readsComparison(Text text, Law law) {
             if (!readsSum(text, law)) {
                 return false;
             }
