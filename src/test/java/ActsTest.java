@@ -140,6 +140,12 @@ public final class ActsTest {
         x.courses(1);
         Check.due("damp draw 13, a diner is there", 4, () -> x.cellar(0, 3));
         Check.due("damp draw 13, nobody is there", 1, () -> x.cellar(1, 3));
+        SaltTable v = Check.table("cellar a grains 9 at 0;damp 58");
+        v.courses(1);
+        Check.due("58 is not below 58", 0, () -> v.cellar(0, 3));
+        SaltTable u = Check.table("cellar a grains 9 at 0;damp 59");
+        u.courses(1);
+        Check.due("58 is below 59", 1, () -> u.cellar(0, 3));
         SaltTable y = Check.law(Check.table("diner taste 1 at 0 diet;cellar a grains 9 at 0;damp 100"), "set 30");
         y.courses(1);
         Check.due("9 at most", 9, () -> y.cellar(0, 3));

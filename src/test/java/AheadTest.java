@@ -118,6 +118,9 @@ public final class AheadTest {
         Check.noArgument("too far", () -> x.fewest(0, 25));
         Check.noArgument("below", () -> x.fewest(0, -1));
         Check.noIndex("no cellar", () -> x.fewest(1, 25));
+        SaltTable y = Check.table("diner taste 3 at 0;diner taste 5 at 1;cellar b grains 90 at 7;cellar a grains 8 at 0");
+        Check.due("all of them, for the second cellar", 3, () -> y.fewest(1, 2));
+        Check.due("not for the first", -1, () -> y.fewest(0, 2));
         Check.law(x, "take 3 if diet");
         Check.due("nobody", 0, () -> x.fewest(0, 3));
         x.courses(3);

@@ -63,6 +63,14 @@ public final class BribesTest {
         Check.due("a tie of greatest parts", 0, () -> Check.rows(z).ask(2));
         // By 10 courses both have met both: likewise.
         Check.due("another tie", 0, () -> Check.rows(z).ask(10));
+        SaltTable w = Check.table("diner taste 3 at 0;cellar a grains 20 at 0");
+        Check.due("of just two", 0, () -> Check.rows(w).ask(1));
+        Check.due("by one row of one", -1, () -> Check.rows(w, 0, 1, 18).ask(1));
+        // Of 37 sets each cellar makes 16, 18 and 3; without the last set the second one's greatest were 17.
+        SaltTable v = Check.table("diner taste 9 at 0;diner taste 9 at 1;diner taste 9 at 2;diner taste 9 at 3;diner taste 9 at 4;"
+                + "diner taste 9 at 5;diner taste 9 at 6;diner taste 9 at 7;cellar a grains 200 at 0;cellar a grains 200 at 4");
+        Check.due("of all sets of eight", 37, () -> Check.rows(v).bribes(false));
+        Check.due("a tie of all sets of eight", 0, () -> Check.rows(v).ask(3));
         SaltTable y = Check.table("diner taste 3 at 0");
         Check.due("without cellars", -1, () -> Check.rows(y).ask(1));
     }

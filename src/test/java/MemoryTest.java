@@ -3,8 +3,10 @@ public final class MemoryTest {
     public static void main(String[] args) {
         trial();
         span();
+        spanSeeds();
         led();
         log();
+        logUndone();
         seed();
         undo();
         undoneInAll();
@@ -59,6 +61,19 @@ public final class MemoryTest {
         Check.noArgument("below", () -> x.span(-1, true));
     }
 
+    /** The first spill draws modulo 100 from SEED 1 to 6, with one cellar, are 38, 8, 47, 17, 55, 26. */
+    private static void spanSeeds() {
+        Check.due("all six spill below 60, a seventh would not", 1, () -> spillingTable(60).span(1, false));
+        Check.due("none spills below 8, SEED 0 would", 0, () -> spillingTable(8).span(1, true));
+        Check.due("SEED 1 spills the most below 14", 3, () -> spillingTable(14).span(5, true));
+        Check.due("SEED 6 alone spills none below 25", 0, () -> spillingTable(25).span(6, false));
+        Check.due("and others three", 3, () -> spillingTable(25).span(6, true));
+    }
+
+    private static SaltTable spillingTable(int spill) {
+        return Check.table("cellar a grains 10 at 0;spill " + spill);
+    }
+
     private static void led() {
         SaltTable x = Check.table("diner taste 1 at 0;cellar a grains 9 at 0;cellar a grains 9 at 0;cellar b grains 9 at 3 step 5;course 11");
         x.courses(11);
@@ -99,6 +114,32 @@ public final class MemoryTest {
         Check.due("the oldest of course 1", 1, () -> y.log(59, 1));
         Check.due("none older", -1, () -> y.log(60, 1));
         Check.due("twelve of each", 12, () -> y.led(3, false));
+    }
+
+    /** Rows that others took the place of come back, too. */
+    private static void logUndone() {
+        SaltTable x = Check.table("diner taste 1 at 0;" + "cellar a grains 200 at 0;".repeat(4) + "cellar a grains 200 at 0");
+        x.courses(100);
+        x.courses(30);
+        Check.due("sixty rows", 60, () -> x.count(12));
+        Check.due("the oldest row is of course 10", 10, () -> x.log(59, 1));
+        Check.due("and of dinner 0", 0, () -> x.log(59, 0));
+        x.courses(50);
+        Check.due("the oldest row is of course 0", 0, () -> x.log(59, 1));
+        Check.due("and of dinner 5", 5, () -> x.log(59, 0));
+        x.undo();
+        Check.due("the oldest row is of course 10 again", 10, () -> x.log(59, 1));
+        Check.due("and of dinner 0 again", 0, () -> x.log(59, 0));
+        SaltTable y = Check.table("diner taste 1 at 0;cellar a grains 200 at 0;cellar b grains 200 at 5");
+        y.courses(1);
+        y.image();
+        y.undo();
+        y.pass(1, 0);
+        y.pass(0, 5);
+        y.courses(1);
+        Check.due("a row of cellar 1", 1, () -> y.log(0, 3));
+        y.back();
+        Check.due("a row of cellar 0 again", 0, () -> y.log(0, 3));
     }
 
     private static void seed() {

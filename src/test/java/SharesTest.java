@@ -28,6 +28,12 @@ public final class SharesTest {
         Check.due("the most", 1, () -> x.worst(1));
         Check.due("the only one", 2, () -> x.worst(2));
         Check.due("nobody", -1, () -> x.worst(5));
+        SaltTable y = Check.table("diner taste 0 at 0;diner taste 1 at 1;cellar f grains 1 at 1;cellar f grains 1 at 5");
+        y.courses(1);
+        Check.due("a single grain", 1, () -> y.worst(5));
+        Check.due("a crowd of one", 6, y::crowd);
+        Check.due("mixed of one", 1, () -> y.diner(1, 3));
+        Check.due("all of one", 100, () -> y.share(1, 5));
         Check.noIndex("no trait", () -> x.worst(6));
         Check.noIndex("no trait below", () -> x.worst(-1));
     }

@@ -114,14 +114,16 @@ public final class TextsTest {
             "cellar 1 grains 1", "cellar a grains 0 at 0", "cellar a grains 201 at 0", "cellar a grains 1 at 10",
             "cellar a grains 1 at 0 step 1 set 1", "cellar a grains 1 at 0 step 10", "cellar a grains 1 at 0 step",
             "sweet 12", "course 12", "spill -1", "Diner taste 1 at 1", "damp 5,", "damp\t5", "diner taste 1 at 6 diet diet",
-            "take 5", "damp 5 ;\u00ff", "dinertaste 1 at 1"};
+            "take 5", "damp 5 ;\u00ff", "dinertaste 1 at 1", "dampz 1", "spill 101", "diner taste 1 at 10", "cellar a grains 1 at 0 step 0",
+            "cellar a grains 1 at 0 set 10", "salty 12", "damp 100;damp 000;spill 100;spill 0;course 0;sweet 0;x"};
         int[] faults = {0, 0, 7, 7, 8, 7, 4, 6, 5, 5,
             5, 5, 0, 6, 12, 17, 19,
             36, 6, 9, 7, 7,
             7, 16, 16, 21,
             30, 28, 27,
             6, 7, 6, 0, 6, 4, 24,
-            0, 8, 0};
+            0, 8, 0, 0, 6, 17, 28,
+            27, 6, 53};
         for (int i = 0; i < texts.length; i++) {
             wrongTable(x, texts[i], faults[i]);
         }
@@ -177,6 +179,16 @@ public final class TextsTest {
         Check.feedText(x, "take 1;x");
         Check.noArgument("wrong law", x::law);
         Check.due("the one before stays", 1, () -> x.count(3));
+        SaltTable y = Check.table("diner taste 1 at 0;cellar a grains 99 at 0");
+        for (int i = 0; i < 60; i++) {
+            Check.law(y, "take 1 if not(1<0 or 2<1 or 3<2 or 4<3 or 5<4 or 6<5);take 2 if 1>2 or diet or grains<99");
+        }
+        Check.due("a law behind many others", 2, () -> y.cellar(0, 6));
+        String longest = "or1<0".repeat(76);
+        Check.law(y, "take 1if 1<0" + longest + "or 1<0");
+        Check.due("a long one that does not hold", 1, () -> y.cellar(0, 6));
+        Check.law(y, "take 1if 1<0" + longest + "or 0<1  ");
+        Check.due("a long one of 400 bytes that holds", 2, () -> y.cellar(0, 6));
     }
 
     private static void wrongLaw(String text, int fault) {
