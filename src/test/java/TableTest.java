@@ -108,6 +108,9 @@ public final class TableTest {
         condition("has<1", true);
         condition("1+2+3>5", true);
         condition("1+2+3>6", false);
+        condition("999>998", true);
+        condition("999+999<998+999+1", false);
+        condition("999+999<999+999+1", true);
         condition("taste+course+cellar>8", true);
         condition("9>taste+course+cellar", false);
         condition("has>0 and has>0 or diet", true);
