@@ -64,6 +64,13 @@ public final class AskEdgesTest {
         SaltTable y = Check.table("diner taste 1 at 0;cellar a grains 20 at 1;course 11");
         y.sweet(8, true);
         Check.due("one course of it is sweet: by 200 it is not any more", -1, () -> y.frees(0));
+        // Course 10 comes to seat 0 behind 8 courses, and then every 60.
+        SaltTable z = Check.law(Check.table("diner taste 0 at 0;cellar a grains 4 at 2;course 2"),
+                "take 1 if course > 9 and 11 > course");
+        Check.due("seats and courses meet once in 60", 189, () -> z.frees(0));
+        Check.due("so they do for all", 189, z::all);
+        z.fill(0, 1);
+        Check.due("and not five times in 200", -1, () -> z.frees(0));
     }
 
     /** "ALL: the first N (0 to 200) AHEAD by which all are FREE; none." */
@@ -171,7 +178,8 @@ public final class AskEdgesTest {
         Check.due("the soonest ahead of the least", 3,
                 () -> Check.table("diner taste 1 at 2;diner taste 2 at 3;cellar a grains 2 at 0 step 9").swap());
         Check.due("two diners change about", 15,
-                () -> Check.table("diner taste 3 at 0;diner taste 1 at 1;diner taste 5 at 5;cellar a grains 8 at 0;cellar b grains 1 at 5").swap());
+                () -> Check.table("diner taste 3 at 0;diner taste 1 at 1;diner taste 5 at 5;cellar a grains 8 at 0;"
+                        + "cellar b grains 1 at 5").swap());
     }
 
     /** "none, if no two make it sooner than it is". */
@@ -196,7 +204,7 @@ public final class AskEdgesTest {
         Check.due("there are none", -1, () -> Check.table("cellar a grains 3 at 0").fewest(0, 24));
     }
 
-    /** "the fewest DINERS (these being on no DIET, all the others on a DIET, whatever they are now) ...: of several sets the least as bits". */
+    /** "the fewest DINERS (these being on no DIET, all the others on a DIET, whatever they are now)", "the least as bits". */
     private static void fewestOfSeveral() {
         SaltTable x = Check.table(EIGHT + "cellar a grains 8 at 0;cellar b grains 2 at 0;cellar c grains 1 at 0");
         Check.due("all eight by 8", 255, () -> x.fewest(0, 8));
@@ -204,7 +212,8 @@ public final class AskEdgesTest {
         Check.due("any two: the least", 3, () -> x.fewest(1, 8));
         Check.due("one twice is fewer", 1, () -> x.fewest(1, 11));
         Check.due("any one: the least", 1, () -> x.fewest(2, 8));
-        SaltTable y = Check.table("diner taste 1 at 0 diet;diner taste 1 at 1;diner taste 2 at 2 diet;diner taste 2 at 3;cellar a grains 3 at 0");
+        SaltTable y = Check.table("diner taste 1 at 0 diet;diner taste 1 at 1;diner taste 2 at 2 diet;diner taste 2 at 3;"
+                + "cellar a grains 3 at 0");
         Check.due("0 and 2, on a diet as they are", 5, () -> y.fewest(0, 3));
         Check.due("diets stay", 5, () -> y.count(11));
         Check.law(y, "take 3 if diner > 0 and diner < 2 and diet");
@@ -330,6 +339,12 @@ public final class AskEdgesTest {
         Check.due("what parts more", 1, () -> Check.rows(x, 0, 1, 97).ask(2));
         SaltTable y = Check.table("diner taste 3 at 9;cellar a grains 9 at 0;cellar a grains 9 at 9;cellar a grains 9 at 9");
         Check.due("of two that part alike the least", 1, () -> Check.rows(y).ask(1));
+        SaltTable w = Check.table("diner taste 1 at 0;cellar a grains 200 at 5;cellar a grains 200 at 0");
+        Check.due("a part of 200 grains counts", 1, () -> Check.rows(w).ask(1));
+        SaltTable v = Check.table("diner taste 9 at 0;diner taste 9 at 1;cellar a grains 8 at 0;cellar a grains 20 at 0;"
+                + "cellar a grains 9 at 5");
+        // By 2 courses of 4 sets cellar 0 has 0 in each, cellar 1 makes 1, 2 and 1, cellar 2 has 9 in each.
+        Check.due("a part of no grains counts", 1, () -> Check.rows(v).ask(2));
         SaltTable z = Check.table("diner taste 3 at 9;cellar a grains 9 at 0;cellar a grains 9 at 0;cellar a grains 9 at 0;"
                 + "cellar a grains 9 at 0;cellar a grains 9 at 9");
         Check.due("the last of five", 4, () -> Check.rows(z).ask(1));
@@ -345,6 +360,7 @@ public final class AskEdgesTest {
         }
         x.courses(1);
         Check.due("of two alike the least", 1, () -> x.worst(0));
+        Check.due("the first diner", 0, () -> freed().worst(0));
         Check.due("the most", 3, () -> x.worst(5));
         Check.due("nobody has any of another", -1, () -> x.worst(1));
         Check.due("nobody at all", -1, () -> new SaltTable().worst(0));
@@ -359,6 +375,16 @@ public final class AskEdgesTest {
         x.courses(1);
         // Diner 0 has 1 a and 1 b, of which a is the least; diner 1 has a, diner 2 has b.
         Check.due("0 and 1", 1, x::alike);
+        SaltTable w = Check.table("diner taste 1 at 0;diner taste 1 at 1;diner taste 1 at 2;cellar a grains 9 at 0;cellar b grains 9 at 0;"
+                + "cellar a grains 9 at 1;cellar a grains 9 at 2;cellar f grains 9 at 9 step 9");
+        w.courses(1);
+        Check.due("all three by a", 3, w::alike);
+        Check.law(w, "take 4");
+        w.pass(0, 0);
+        w.pass(4, 0);
+        w.courses(1);
+        // Diner 0 has 6 a, 1 b and 5 f, diner 1 has 1 a and 5 b, diner 2 has 6 a.
+        Check.due("the most, not the last", 1, w::alike);
         SaltTable y = Check.table(EIGHT + "cellar f grains 200 at 0;cellar f grains 200 at 4");
         y.courses(4);
         Check.due("all pairs of eight", 28, y::alike);
@@ -380,6 +406,9 @@ public final class AskEdgesTest {
         Check.due("mixed of one", 1, () -> x.diner(0, 3));
         Check.due("mixed of two", 2, () -> x.diner(1, 3));
         Check.due("mixed of none", 0, () -> x.diner(2, 3));
+        SaltTable z = Check.table("diner taste 1 at 0;cellar f grains 1 at 0");
+        z.courses(1);
+        Check.due("all of a single grain", 100, () -> z.share(0, 5));
         SaltTable y = CourseEdgesTest.nearlyFull();
         y.fill(0, 1);
         y.courses(1);
@@ -402,7 +431,7 @@ public final class AskEdgesTest {
         Check.due("together with 4 in diners", 17, x::whole);
     }
 
-    /** "by how many takings all its GRAINS would be gone, if all DINERS ... round and round, each took as much as its TASTE ...; none." */
+    /** "by how many takings all its GRAINS would be gone, if all DINERS ... round and round ...; none." */
     private static void sentenceRoundAndRound() {
         SaltTable x = Check.table("diner taste 3 at 0 diet;diner taste 5 at 1;cellar a grains 3 at 9 set 9;cellar a grains 4 at 9;"
                 + "cellar a grains 8 at 9;cellar a grains 9 at 9;cellar a grains 200 at 9;sweet 0");
@@ -418,13 +447,14 @@ public final class AskEdgesTest {
         Check.due("nobody", -1, () -> Check.table("cellar a grains 1 at 0").sentence(0));
         Check.due("no taste", -1, () -> Check.table("diner taste 0 at 0;diner taste 0 at 1;cellar a grains 1 at 0").sentence(0));
         Check.due("one of no taste", 200, () -> Check.table("diner taste 1 at 1;cellar a grains 200 at 0").sentence(0));
-        Check.due("a turn of no taste is one", 2, () -> Check.table("diner taste 0 at 0;diner taste 9 at 1;cellar a grains 9 at 0").sentence(0));
+        Check.due("a turn of no taste is one", 2,
+                () -> Check.table("diner taste 0 at 0;diner taste 9 at 1;cellar a grains 9 at 0").sentence(0));
     }
 
     /** "ALONE ...: how many PINCHES of that one alone ... till it is FREE (0 to 200); none." */
     private static void aloneByTwoHundred() {
-        SaltTable x = Check.table("diner taste 1 at 0;diner taste 0 at 1;diner taste 9 at 2 diet;diner taste 9 at 3;cellar a grains 200 at 0;"
-                + "cellar a grains 199 at 5;cellar a grains 1 at 5;cellar a grains 9 at 5 set 9");
+        SaltTable x = Check.table("diner taste 1 at 0;diner taste 0 at 1;diner taste 9 at 2 diet;diner taste 9 at 3;"
+                + "cellar a grains 200 at 0;cellar a grains 199 at 5;cellar a grains 1 at 5;cellar a grains 9 at 5 set 9");
         Check.due("two hundred", 200, () -> x.alone(0, 0));
         Check.due("one fewer", 199, () -> x.alone(1, 0));
         Check.due("one", 1, () -> x.alone(2, 0));
@@ -452,6 +482,8 @@ public final class AskEdgesTest {
         Check.due("2 and 2, one is free", true, x::fair);
         x.fill(2, 1);
         Check.due("2 and 3", false, x::fair);
+        Check.due("a single grain is a sentence, too", false,
+                () -> Check.table("diner taste 3 at 0;cellar a grains 1 at 0;cellar a grains 4 at 0").fair());
     }
 
     /** "for the CELLAR of the least number, not FREE, at its SEAT ...; none without such a CELLAR." */
@@ -459,6 +491,7 @@ public final class AskEdgesTest {
         Check.due("no cellar", -1, () -> Check.table("diner taste 3 at 0").game(0));
         Check.due("at another seat", -1, () -> Check.table("diner taste 3 at 0;cellar a grains 9 at 1").game(0));
         Check.due("free", -1, () -> freed().game(0));
+        Check.due("a single grain", 9, () -> Check.table("diner taste 3 at 0;cellar a grains 1 at 0").game(0));
         SaltTable x = Check.table("diner taste 3 at 0;cellar a grains 1 at 0;cellar a grains 9 at 0;cellar a grains 9 at 0 set 9");
         Check.due("the first", 9, () -> x.game(0));
         x.courses(1);
@@ -499,7 +532,8 @@ public final class AskEdgesTest {
         Check.due("the last seat", 9, () -> Check.table("cellar a grains 1 at 9").crowd());
         Check.due("the first seat", 0, () -> Check.table("cellar a grains 1 at 9;cellar a grains 1 at 0").crowd());
         Check.due("of two and two the least", 4,
-                () -> Check.table("cellar a grains 1 at 9;cellar a grains 1 at 4;cellar a grains 1 at 9;cellar a grains 1 at 4;cellar a grains 1 at 0").crowd());
+                () -> Check.table("cellar a grains 1 at 9;cellar a grains 1 at 4;cellar a grains 1 at 9;"
+                        + "cellar a grains 1 at 4;cellar a grains 1 at 0").crowd());
     }
 
     /** "GAPS: SEATS without a DINER, as bits." */
@@ -515,8 +549,8 @@ public final class AskEdgesTest {
         SaltTable x = Check.table("diner taste 0 at 0;cellar a grains 1 at 0;cellar a grains 1 at 9;cellar a grains 1 at 1;"
                 + "cellar a grains 1 at 9 step 9;cellar a grains 1 at 1 step 2");
         Check.due("behind 0, 1, 9, 9, and never", 15, () -> x.meets(0));
-        SaltTable y = Check.table("diner taste 0 at 0;diner taste 9 at 9;diner taste 9 at 5;cellar a grains 9 at 9;cellar a grains 10 at 9;"
-                + "cellar a grains 10 at 5");
+        SaltTable y = Check.table("diner taste 0 at 0;diner taste 9 at 9;diner taste 9 at 5;cellar a grains 9 at 9;"
+                + "cellar a grains 10 at 9;cellar a grains 10 at 5");
         Check.due("one is freed ahead of it", 2, () -> y.meets(0) & 3);
         Check.due("one is freed by two", 0, () -> y.meets(0) & 4);
         Check.due("in the course in which it is freed it is met", 7, () -> y.meets(1));
@@ -524,7 +558,7 @@ public final class AskEdgesTest {
         Check.due("no cellars", 0, () -> Check.table("diner taste 0 at 0").meets(0));
     }
 
-    /** "LEAST of N: in which of the COURSES ahead of which 0, 1, .. N (0 to 60) go by the fewest GRAINS are taken in it (of several the first)." */
+    /** "in which of the COURSES ahead of which 0, 1, .. N (0 to 60) go by the fewest GRAINS are taken in it (of several the first)". */
     private static void leastOfSixty() {
         // Both are freed by 60 courses, and until then one of them at least is at a diner.
         SaltTable x = Check.table(EIGHT + "cellar a grains 48 at 0;cellar a grains 48 at 5");
@@ -554,7 +588,7 @@ public final class AskEdgesTest {
         Check.due("without cellars", 0, () -> new SaltTable().trial(200, true));
     }
 
-    /** "SPAN: the least and the greatest SPILT so from SEED 1, 2, .. 6": the first draws are 38, 8, 47, 17, 55, 26, from 0 it is 0, from 7 64. */
+    /** "SPAN: ... from SEED 1, 2, .. 6": the first draws are 38, 8, 47, 17, 55, 26 (from 0 it is 0, from 7 it is 64). */
     private static void spanOfSixSeeds() {
         int[][] wants = {{8, 0, 0}, {9, 0, 1}, {55, 0, 1}, {56, 1, 1}, {64, 1, 1}};
         for (int[] want : wants) {
@@ -564,6 +598,9 @@ public final class AskEdgesTest {
             Seen.unmoved("greatest below " + want[0], want[2], x, () -> x.span(1, true));
             Check.due("of no course", 0, () -> x.span(0, true));
         }
+        // Below 14 SEED 1 spills three in five courses and none of the others as many; below 25 SEED 6 alone spills none in six.
+        Check.due("the first seed", 3, () -> Check.table("cellar a grains 10 at 0;spill 14").span(5, true));
+        Check.due("the last seed", 0, () -> Check.table("cellar a grains 10 at 0;spill 25").span(6, false));
         SaltTable y = Check.table("cellar a grains 200 at 0;spill 100");
         Check.due("of 199", 199, () -> y.span(199, true));
         Check.due("of 200", 200, () -> y.span(200, false));

@@ -233,7 +233,7 @@ public final class CourseEdgesTest {
     }
 
     private static void damped(int seed, int damp, int want) {
-        SaltTable x = Check.table("cellar a grains 9 at 0;damp " + damp);
+        SaltTable x = Check.table("cellar a grains 1 at 0;damp " + damp);
         x.seed(seed);
         x.courses(1);
         Check.due("set from seed " + seed + " by " + damp, want, () -> x.cellar(0, 3));

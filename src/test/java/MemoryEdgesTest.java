@@ -83,7 +83,8 @@ public final class MemoryEdgesTest {
 
     /** "DINNER, COURSE (as it is then), the DINER, the CELLAR, how much." */
     private static void rowsAsItIsThen() {
-        SaltTable x = Check.law(Check.table("diner taste 0 at 3;diner taste 9 at 0;cellar b grains 1 at 7;cellar a grains 200 at 0;course 11"),
+        SaltTable x = Check.law(Check.table("diner taste 0 at 3;diner taste 9 at 0;cellar b grains 1 at 7;"
+                + "cellar a grains 200 at 0;course 11"),
                 "take 30;take 30;take 30;take 30;take 30;take 30;take 11");
         x.courses(1);
         int[] wants = {0, 11, 1, 1, 200};

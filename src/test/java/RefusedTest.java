@@ -38,6 +38,7 @@ public final class RefusedTest {
         refusedAsks();
         firstToldOfTwo();
         asked();
+        askedAheadOfCourses();
         Check.due("the act ahead of all that is undone", true, x::undo);
         Check.same("as ahead of it", ahead, Seen.of(x));
         Check.due("the image ahead of all that is gone back to", true, x::back);
@@ -165,6 +166,25 @@ public final class RefusedTest {
         Check.due("its wrong byte", 0, y::fault);
         Check.feedText(y, "damp 1");
         Seen.unmovedButTape("a right thirteenth text", "throws.UnsupportedOperationException", y, y::table);
+    }
+
+    /** Whom one asks about as bribed is not: nothing of a question comes into a course. */
+    private static void askedAheadOfCourses() {
+        SaltTable y = Check.table("diner taste 3 at 0;cellar a grains 99 at 0;diner taste 3 at 1;cellar b grains 99 at 1 step 9");
+        Check.rows(y).bribes(true);
+        Check.due("courses behind bribes", 6, () -> y.courses(1));
+        Check.rows(y).ask(24);
+        Check.due("courses behind ask", 6, () -> y.courses(1));
+        y.undo();
+        Check.rows(y).ask(24);
+        Check.due("takes behind ask", 3, () -> y.takes(1, 1));
+        Check.rows(y).ask(24);
+        Check.due("trial behind ask", 3, () -> y.trial(1, true));
+        Check.rows(y).ask(24);
+        Check.due("its pinch behind ask", 3, () -> y.cellar(0, 6));
+        y.trial(200, true);
+        y.fewest(0, 24);
+        Check.due("courses behind a trial and fewest", 6, () -> y.courses(1));
     }
 
     /** Who asks changes nothing: of AHEAD and TRIAL "nothing stays". */

@@ -237,7 +237,8 @@ public final class TextEdgesTest {
         bounds("spill ", 0, 100, "");
         bounds("damp ", 0, 100, "");
         bounds("course ", 0, 11, "");
-        SaltTable x = Check.table("diner taste 9 at 9;cellar a grains 200 at 9 set 9 step 9;sweet 0;sweet 11;spill 100;damp 100;course 11");
+        SaltTable x = Check.table("diner taste 9 at 9;cellar a grains 200 at 9 set 9 step 9;sweet 0;sweet 11;spill 100;"
+                + "damp 100;course 11");
         Check.due("taste 9", 9, () -> x.diner(0, 1));
         Check.due("grains 200", 200, () -> x.cellar(0, 2));
         Check.due("set 9", 9, () -> x.cellar(0, 3));
@@ -390,7 +391,8 @@ public final class TextEdgesTest {
     /** "Words are as long as a to z go on"; wrong is "a word that is none". */
     private static void wordsAreLong() {
         SaltTable x = new SaltTable();
-        for (String word : List.of("dinertaste", "dine", "diners", "dinera", "d", "a", "tastes", "cellara", "dampdamp", "Damp")) {
+        for (String word : List.of("dinertaste", "dine", "diners", "dinera", "d", "a", "tastes", "cellara", "dampdamp",
+                "Damp", "dampz", "zdamp", "z")) {
             wrong(x, word + " 1", 0);
         }
         wrong(x, "diner tasteat", 6);
@@ -500,7 +502,8 @@ public final class TextEdgesTest {
                 "cellar a grains 1 at 0", "cellar a grains 1 at 0 set", "cellar a grains 1 at 0 set 1",
                 "cellar a grains 1 at 0 step", "cellar a grains 1 at 0 step 2", "sweet", "sweet 1", "salty", "spill", "damp",
                 "course", "course 1", "damp 1;")) {
-            for (String thing : List.of("x", "g", "1000", "0001", ":", "-1", "Diner", "take", "if", "(", "diner taste", "diner;", "\u00ff")) {
+            for (String thing : List.of("x", "g", "1000", "0001", ":", "-1", "Diner", "take", "if", "(", "diner taste",
+                    "diner;", "\u00ff")) {
                 if (!(ahead.isEmpty() || ahead.endsWith(";")) || !thing.startsWith("diner")) {
                     wrong(x, ahead + "  " + thing + " x", ahead.length() + 2);
                 }
@@ -566,5 +569,8 @@ public final class TextEdgesTest {
         SaltTable y = new SaltTable();
         wrong(y, " ".repeat(399) + "x", 399);
         wrong(y, "damp" + " ".repeat(396), 400);
+        wrong(y, ";".repeat(400), 0);
+        wrong(y, "damp 1;" + ";".repeat(393), 7);
+        wrongLaw(y, "<".repeat(400), 0);
     }
 }
