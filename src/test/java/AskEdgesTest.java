@@ -482,6 +482,8 @@ public final class AskEdgesTest {
         Check.due("2 and 2, one is free", true, x::fair);
         x.fill(2, 1);
         Check.due("2 and 3", false, x::fair);
+        Check.due("five alike", true, () -> Check.table("diner taste 3 at 0;cellar a grains 4 at 0;cellar a grains 5 at 0;"
+                + "cellar a grains 6 at 0;cellar a grains 5 at 0;cellar a grains 4 at 0").fair());
         Check.due("a single grain is a sentence, too", false,
                 () -> Check.table("diner taste 3 at 0;cellar a grains 1 at 0;cellar a grains 4 at 0").fair());
     }

@@ -8,6 +8,8 @@ public final class TableTest {
         cellar();
         pinches();
         conditions();
+        truths();
+        linesOfTheirOwn();
         setsBy();
         seat();
         Check.ends("TableTest");
@@ -127,6 +129,35 @@ public final class TableTest {
         y.courses(1);
         y.pass(0, 0);
         Check.due("it has 4 now", 7, () -> y.cellar(0, 6));
+    }
+
+    /** Each way in which three atoms hold or not, by "ALL { or ALL }; ALL: ATOM { and ATOM }; ATOM: not ATOM | ( C )". */
+    private static void truths() {
+        for (int way = 0; way < 8; way++) {
+            boolean a = (way & 1) != 0;
+            boolean b = (way & 2) != 0;
+            boolean c = (way & 4) != 0;
+            String[] texts = {"A or B and C", "A and B or C", "(A or B) and C", "A and (B or C)", "not A or B and not C",
+                "not (A and B) or C", "A or B or C", "A and B and C", "not A and B or not (B or C)", "not (A or not (B and not C))",
+                "A and B or B and C or A and C"};
+            boolean[] holds = {a || b && c, a && b || c, (a || b) && c, a && (b || c), !a || b && !c,
+                !(a && b) || c, a || b || c, a && b && c, !a && b || !(b || c), !(a || !(b && !c)),
+                a && b || b && c || a && c};
+            for (int i = 0; i < texts.length; i++) {
+                condition(texts[i].replace("A", a ? "1<2" : "2<1").replace("B", b ? "2>1" : "1>2").replace("C", c ? "diet" : "has>0"),
+                        holds[i]);
+            }
+        }
+    }
+
+    /** A line holds or not by its own condition, whatever those ahead of it and behind it do. */
+    private static void linesOfTheirOwn() {
+        pinch(ONE, "take 1 if diet;take 2", 6);
+        pinch(ONE, "take 1;take 2 if diet", 5);
+        pinch(ONE, "take 1 if diet;take 2 if not diet;take 4 if diet;take 8", 14);
+        pinch(ONE, "take 1 if not diet;take 2 if diet;take 4;spare 3 if diet;spare 1", 8);
+        SaltTable x = Check.law(Check.table(ONE), "take 9 if diet;set 4;set 8 if diet;set 16 if not diet");
+        Check.due("so it is with set", 21, () -> x.cellar(0, 7));
     }
 
     private static void setsBy() {

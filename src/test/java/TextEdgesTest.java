@@ -380,8 +380,12 @@ public final class TextEdgesTest {
         rightLaw(x, "take 2", 1);
         Check.due("nothing of the one before takes", 3, () -> x.cellar(0, 6));
         Check.due("nor sets", 1, () -> x.cellar(0, 7));
+        rightLaw(x, "set 5;set 7", 2);
+        rightLaw(x, "set 1", 1);
+        Check.due("nor does a line behind its last", 2, () -> x.cellar(0, 7));
         rightLaw(x, "", 0);
         Check.due("an empty one in its place", 1, () -> x.cellar(0, 6));
+        Check.due("which sets by 1", 1, () -> x.cellar(0, 7));
         for (int i = 0; i < 30; i++) {
             rightLaw(x, "take 1 if not 1 < 0", 1);
         }
