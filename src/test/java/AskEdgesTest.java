@@ -71,6 +71,9 @@ public final class AskEdgesTest {
         Check.due("so they do for all", 189, z::all);
         z.fill(0, 1);
         Check.due("and not five times in 200", -1, () -> z.frees(0));
+        SaltTable w = Check.law(Check.table("diner taste 0 at 0;cellar a grains 1 at 1"), "take 1 if course > 10");
+        Check.due("in the last of the first 60", 60, () -> w.frees(0));
+        Check.due("as for all", 60, w::all);
     }
 
     /** "ALL: the first N (0 to 200) AHEAD by which all are FREE; none." */
@@ -388,6 +391,10 @@ public final class AskEdgesTest {
         SaltTable y = Check.table(EIGHT + "cellar f grains 200 at 0;cellar f grains 200 at 4");
         y.courses(4);
         Check.due("all pairs of eight", 28, y::alike);
+        SaltTable v = Check.table("diner taste 1 at 0;diner taste 5 at 1;diner taste 1 at 2;cellar f grains 9 at 0;cellar a grains 9 at 1;"
+                + "cellar f grains 9 at 2");
+        v.courses(1);
+        Check.due("whatever the one between them has", 1, v::alike);
         SaltTable z = Check.table(EIGHT + "cellar f grains 200 at 0");
         z.courses(1);
         Check.due("one who has some and seven who have none", 0, z::alike);

@@ -573,6 +573,10 @@ public final class TextEdgesTest {
         SaltTable y = new SaltTable();
         wrong(y, " ".repeat(399) + "x", 399);
         wrong(y, "damp" + " ".repeat(396), 400);
+        for (int at = 0; at < 400; at += at < 390 ? 15 : 1) {
+            wrong(y, " ".repeat(at) + "x", at);
+            wrongLaw(y, " ".repeat(at) + "x", at);
+        }
         wrong(y, ";".repeat(400), 0);
         wrong(y, "damp 1;" + ";".repeat(393), 7);
         wrongLaw(y, "<".repeat(400), 0);
